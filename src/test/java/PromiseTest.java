@@ -407,6 +407,23 @@ final class PromiseTest {
         due("11 A is not there", x.passed(1), 13);
         days(x, "BhDbAxBx.");
         due("11 B neither", x.passed(1), 23);
+        MorningBite y = new MorningBite();
+        y.one(0, 31, 1, 31);
+        y.one(1, 30, 2, 20);
+        days(y, "..");
+        due("11 level behind it, then level ahead of it", y.passed(0), NONE);
+        y.one(1, 30, 3, 20);
+        due("11 B passes A at once", y.passed(0), 0);
+        y.one(1, 29, 2, 20);
+        days(y, "...");
+        due("11 B passes A later", y.passed(0), NONE);
+        y.one(1, 28, 2, 20);
+        days(y, "!.!...");
+        due("11 level on the third, no pass on the fourth", y.passed(0), NONE);
+        y.one(1, 29, 3, 20);
+        due("11 level on the first, too", y.passed(1), NONE);
+        y.one(1, 28, 3, 20);
+        due("11 on the second", y.passed(0), 1);
         due("11 what 2", x.passed(2), OUTSIDE);
         due("11 what -1", x.passed(-1), OUTSIDE);
         days(x, "A");
@@ -788,6 +805,7 @@ final class PromiseTest {
         fraction(x, new int[] {0, 6, 1, 22}, 177147, 200000);
         x.one(3, 0, 9, 0);
         fraction(x, new int[] {3, 1, 0, -1}, 0, 1);
+        fraction(x, new int[] {3, 1, 5, 0}, 1, 2);
         fraction(x, new int[] {3, 2, 5, -1}, 27, 4);
         x.one(4, 98, 9, 90);
         fraction(x, new int[] {4, 2, 5, -1}, 189, 2);
@@ -830,6 +848,8 @@ final class PromiseTest {
         due("25 one morning in four", x.year(9, 4, 2), 1);
         due("25 nothing is done", x.told(10), 30);
         due("25 nor eaten", x.told(63), 0);
+        asToldOnThePad();
+        due("25 seed 9999", x.year(9999, 1, 2) >= 0 ? 1 : 0, 1);
         due("25 seed -1", x.year(-1, 1, 0), OUTSIDE);
         due("25 seed 10000", x.year(10000, 1, 0), OUTSIDE);
         due("25 m 0", x.year(0, 0, 0), OUTSIDE);
@@ -840,6 +860,45 @@ final class PromiseTest {
             due("25 far seed", x.year(far, 1, 0), OUTSIDE);
             due("25 far m", x.year(0, far, 0), OUTSIDE);
             due("25 far what", x.year(0, 1, far), OUTSIDE);
+        }
+    }
+
+    /** A year is what its draws do when they are said on the pad one by one, those left out that can not be. */
+    private static void asToldOnThePad() {
+        int[] seeds = {0, 1, 77, 4711, 9998, 9999};
+        for (int seed : seeds) {
+            MorningBite x = new MorningBite();
+            for (int one = 0; one < 6; one++) {
+                x.one(one, 40 + 5 * one, 1 + one, 20);
+            }
+            x.set(0, 9);
+            MorningBite y = new MorningBite();
+            for (int one = 0; one < 6; one++) {
+                y.one(one, 40 + 5 * one, 1 + one, 20);
+            }
+            y.set(0, 9);
+            int draw = seed;
+            int mornings = 0;
+            // Five calls for each act at the most, so that it stays below the 512 that an object is promised for.
+            for (int m = 1; m <= 90; m++) {
+                draw = (75 * draw + 74) % 65537;
+                int kind = draw / 6 % 7;
+                mornings += kind == 5 ? 1 : 0;
+                String who = "" + (char) ('A' + draw % 6);
+                String[] acts = {"b", "b", "h", "h", ">" + (char) ('A' + draw / 42 % 6)};
+                say(y, kind == 5 ? "." : kind == 6 ? "!" : who + acts[kind]);
+                if (y.done() < 0) {
+                    y.wipe();
+                }
+                if (m % 15 == 0) {
+                    int sum = 0;
+                    for (int one = 0; one < 6; one++) {
+                        sum += y.behind(one, 0);
+                    }
+                    due("25 seed " + seed + ", " + m + " acts: looks", x.year(seed, m, 0), sum);
+                    due("25 seed " + seed + ", " + m + " acts: mornings", x.year(seed, m, 2), mornings);
+                }
+            }
         }
     }
 
