@@ -354,6 +354,16 @@ final class Oracle {
         return best(members(set), looks, m, n, v, new HashMap<>());
     }
 
+    /** What is eaten in the first way by the fewest, as digits by days, then by ONES; null: there is no way. */
+    String row(int set, int m, int n, int v) {
+        List<Integer> best = best(set, m, n, v);
+        StringBuilder row = new StringBuilder();
+        for (int i = 1; best != null && i < best.size(); i++) {
+            row.append(best.get(i));
+        }
+        return best == null ? null : row.toString();
+    }
+
     int keeps(int set, int m, int n, int v) {
         int refusal = refuseKeeping(set, m, n, v);
         if (refusal != 0) return refusal;
